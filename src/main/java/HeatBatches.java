@@ -301,6 +301,11 @@ public final class HeatBatches {
         return isWithin(measure, 0, MEASURES - 1);
     }
 
+    /** Whether the measure asks when a JOB is DUE. */
+    private static boolean isOfDues(int measure) {
+        return measure == WORST || measure == SUM;
+    }
+
     private boolean isJob(int job) {
         return isWithin(job, 0, shop.jobs - 1);
     }
@@ -329,22 +334,27 @@ public final class HeatBatches {
     }
 
     /**
-     * The least DUE of a JOB that leaves BEST as it is. A DUE later by 1 makes BEST less by 1 at the most, so that
-     * none of the times that are passed over can do.
+     * The least DUE of a JOB that leaves BEST as it is. BEST never grows as a DUE gets later, so that the times can be
+     * halved; and a DUE later by 1 makes it less by 1 at the most, so that an excess tells how many more can not do.
      */
     private int earliestDue(int job, int measure) {
-        int now = shop.dueOf[job];
-        int tried = 0;
+        if (!isOfDues(measure)) {
+            return 0;
+        }
+        int low = 0;
+        int high = shop.dueOf[job];
         trial.become(shop);
-        for (int round = 0; round <= LAST_DUE && tried < now; round++) {
+        for (int round = 0; round <= LAST_DUE && low < high; round++) {
+            int tried = (low + high) / 2;
             trial.dueOf[job] = tried;
             int excess = search.leastOf(trial, measure) - bestValues[measure];
             if (excess <= 0) {
-                return tried;
+                high = tried;
+            } else {
+                low = tried + excess;
             }
-            tried += excess;
         }
-        return Math.min(tried, now);
+        return high;
     }
 
     private void layRule() {
@@ -402,11 +412,11 @@ public final class HeatBatches {
 
     /** All that an IMAGE keeps. */
     private static final class Shop {
-        // the place behind the FAMILIES is the furnace ahead of its first BATCH
+        // a FAMILY more, that no JOB is of: the furnace ahead of its first BATCH is as it would leave it
         static final int COLD = FAMILIES;
 
         final int[] heat = {3, 6, 9, 0};
-        final int[] cook = {5, 5, 5};
+        final int[] cook = {5, 5, 5, 0};
         int room = 10;
         int up = 1;
         int down = 1;
@@ -494,7 +504,12 @@ public final class HeatBatches {
         }
 
         int familyOfSet(int batch) {
-            return batch == 0 ? COLD : familyOf[Integer.numberOfTrailingZeros(batch)];
+            for (int job = 0; job < jobs; job++) {
+                if (contains(batch, job)) {
+                    return familyOf[job];
+                }
+            }
+            return COLD;
         }
 
         int takes(int furnace, int family) {
@@ -502,11 +517,13 @@ public final class HeatBatches {
             return (change > 0 ? up * change : -down * change) + cook[family];
         }
 
+        /** LATE of the JOBS of one BATCH: the greatest or, by SUM, all. */
         int late(int measure, int batch, int end) {
             int all = 0;
             for (int job = 0; job < jobs; job++) {
-                if (contains(batch, job)) {
-                    all = joined(measure, all, Math.max(0, end - dueOf[job]));
+                int over = end - dueOf[job];
+                if (over > 0 && contains(batch, job)) {
+                    all = measure == WORST ? Math.max(all, over) : all + over;
                 }
             }
             return all;
@@ -648,8 +665,9 @@ public final class HeatBatches {
         private static final int NO_BATCH = -1;
         private static final int SLOT_BITS = 11;
         private static final int SLOTS = 1 << SLOT_BITS;
-        private static final int CLOCK_BITS = 9;
-        private static final int STATE_BITS = CLOCK_BITS + 2 + MOST_JOBS;
+        private static final int MOST_STEPS = 32;
+        private static final int TIME_BITS = 9;
+        private static final int STATE_BITS = TIME_BITS + 2 + MOST_JOBS;
         private static final int LAST_AGE = (1 << 31 - STATE_BITS) - 1;
         // an odd number of many bits: it strews keys that are near each other
         private static final int STREW = 0x9E3779B1;
@@ -678,44 +696,53 @@ public final class HeatBatches {
                 return;
             }
             int left = shop.everyJob();
-            int spent = 0;
             int furnace = Shop.COLD;
+            int spent = 0;
             for (int round = 0; round < MOST_JOBS && left != 0; round++) {
-                int batch = firstBatch(left, furnace, into.time(), spent, least);
-                spent = joined(measure, spent, part(batch, furnace, into.time()));
+                int begin = into.time();
+                int batch = firstBatch(left, furnace, begin, spent, least);
                 into.add(shop, batch);
+                spent = joined(measure, spent, part(batch, begin, into.time()));
                 furnace = familyOfBatch[batch];
                 left &= ~batch;
             }
         }
 
-        private int firstBatch(int left, int furnace, int clock, int spent, int least) {
+        private int firstBatch(int left, int furnace, int begin, int spent, int least) {
             for (int batch = 1; batch <= left; batch++) {
-                if ((batch & ~left) == 0 && familyOfBatch[batch] != NO_BATCH) {
-                    int so = joined(measure, spent, part(batch, furnace, clock));
-                    if (so <= least && joined(measure, so, leastBehind(left, batch, furnace, clock, 0)) <= least) {
+                int family = familyOfBatch[batch];
+                if ((batch & ~left) == 0 && family != NO_BATCH) {
+                    int end = begin + shop.takes(furnace, family);
+                    int all = joined(measure, spent, part(batch, begin, end));
+                    if (joined(measure, all, leastLeft(left & ~batch, family, end, 0)) <= least) {
                         return batch;
                     }
                 }
             }
-            return Integer.lowestOneBit(left);
+            return left & -left;
         }
 
         private void listBatches() {
-            for (int members = 1; members <= shop.everyJob(); members++) {
-                int first = Integer.numberOfTrailingZeros(members);
-                int others = members & members - 1;
-                int family = shop.familyOf[first];
-                int volume = shop.volumeOf[first];
-                if (others != 0) {
-                    volume += volumeOfBatch[others];
-                    if (familyOfBatch[others] != family || volume > shop.room) {
-                        family = NO_BATCH;
-                    }
+            for (int job = 0; job < shop.jobs; job++) {
+                for (int others = 0; others < 1 << job; others++) {
+                    listBatch(others, job);
                 }
-                familyOfBatch[members] = family;
-                volumeOfBatch[members] = volume;
             }
+        }
+
+        /** The others are of lesser numbers, and listed already. */
+        private void listBatch(int others, int job) {
+            int members = others | 1 << job;
+            int family = shop.familyOf[job];
+            int volume = shop.volumeOf[job];
+            if (others != 0) {
+                volume += volumeOfBatch[others];
+                if (familyOfBatch[others] != family || volume > shop.room) {
+                    family = NO_BATCH;
+                }
+            }
+            familyOfBatch[members] = family;
+            volumeOfBatch[members] = volume;
         }
 
         private void forgetFinds() {
@@ -727,45 +754,61 @@ public final class HeatBatches {
         }
 
         /** The least that the JOBS left can come to, with the furnace as a FAMILY left it at that time. */
-        private int leastLeft(int left, int furnace, int clock, int depth) {
+        private int leastLeft(int left, int furnace, int time, int depth) {
             if (left == 0 || depth > MOST_JOBS) {
                 return 0;
             }
-            int key = ((age << MOST_JOBS | left) << 2 | furnace) << CLOCK_BITS | clock;
-            int slot = key * STREW >>> 32 - SLOT_BITS;
+            // a time that is not asked is left out: fewer states are unlike then
+            int begin = isOfDues(measure) ? time : 0;
+            if (Integer.bitCount(left) == 1) {
+                return part(left, begin, begin + shop.takes(furnace, familyOfBatch[left]));
+            }
+            int key = ((age << MOST_JOBS | left) << 2 | furnace) << TIME_BITS | begin;
+            int slot = slotOf(key);
             if (keys[slot] == key) {
                 return finds[slot];
             }
             int least = Integer.MAX_VALUE;
             for (int batch = left; batch > 0; batch = batch - 1 & left) {
-                if (familyOfBatch[batch] != NO_BATCH) {
-                    int part = part(batch, furnace, clock);
-                    if (part < least) {
-                        int behind = leastBehind(left, batch, furnace, clock, depth);
-                        least = Math.min(least, joined(measure, part, behind));
+                int family = familyOfBatch[batch];
+                if (family != NO_BATCH) {
+                    int end = begin + shop.takes(furnace, family);
+                    int own = part(batch, begin, end);
+                    if (own < least) {
+                        int others = leastLeft(left & ~batch, family, end, depth + 1);
+                        least = Math.min(least, joined(measure, own, others));
                     }
                 }
             }
-            keys[slot] = key;
-            finds[slot] = least;
+            keep(key, least);
             return least;
         }
 
-        private int leastBehind(int left, int batch, int furnace, int clock, int depth) {
-            int family = familyOfBatch[batch];
-            // TIME and BATCHES do not ask when it is: without the clock fewer states are unlike
-            int then = measure == TIME || measure == BATCHES ? 0 : clock + shop.takes(furnace, family);
-            return leastLeft(left & ~batch, family, then, depth + 1);
+        /** What one BATCH adds to the measure. */
+        private int part(int batch, int begin, int end) {
+            switch (measure) {
+                case TIME: return end - begin;
+                case BATCHES: return 1;
+                default: return shop.late(measure, batch, end);
+            }
         }
 
-        /** What one BATCH adds to the measure. */
-        private int part(int batch, int furnace, int clock) {
-            int takes = shop.takes(furnace, familyOfBatch[batch]);
-            switch (measure) {
-                case TIME: return takes;
-                case BATCHES: return 1;
-                default: return shop.late(measure, batch, clock + takes);
+        /** Where the key is, or else where it may go: in place of an old find, or of a new one if there is none near. */
+        private int slotOf(int key) {
+            int home = key * STREW >>> 32 - SLOT_BITS;
+            for (int step = 0; step < MOST_STEPS; step++) {
+                int slot = home + step & SLOTS - 1;
+                if (keys[slot] == key || keys[slot] >> STATE_BITS != age) {
+                    return slot;
+                }
             }
+            return home;
+        }
+
+        private void keep(int key, int least) {
+            int slot = slotOf(key);
+            keys[slot] = key;
+            finds[slot] = least;
         }
     }
 }
