@@ -11,6 +11,7 @@ public final class BestPlansTest {
         planIsTheFirst();
         planByWorstMayWaste();
         furnaceOfOneHeat();
+        theLongestTimes();
         answersFollowChanges();
         slack();
         slackPastJumps();
@@ -105,6 +106,39 @@ public final class BestPlansTest {
         plan(x, 0, 1, 2, 4);
         plan(x, 1, 4, 2, 1);
         plan(x, 2, 1, 2, 4);
+    }
+
+    /** Seven batches as slow as can be, each due at 0 or at 99, held against the reference. */
+    private static void theLongestTimes() {
+        HeatBatches x = new HeatBatches();
+        Reference r = new Reference();
+        int[][] families = {{0, 0, 0}, {0, 1, 20}, {1, 0, 9}, {1, 1, 20}};
+        for (int[] f : families) {
+            check.due("family", x.family(f[0], f[1], f[2]), r.family(f[0], f[1], f[2]));
+        }
+        check.due("set(1, 3)", x.set(1, 3), r.set(1, 3));
+        check.due("set(2, 3)", x.set(2, 3), r.set(2, 3));
+        int[] dues = {0, 99, 99, 0, 50, 99, 1};
+        for (int j = 0; j < 7; j++) {
+            check.due("job", x.job(1 - j % 2, 9, dues[j]), r.job(1 - j % 2, 9, dues[j]));
+        }
+        for (int measure = 0; measure < 4; measure++) {
+            check.due("best(" + measure + ")", x.best(measure), r.best(measure));
+            for (int b = -1; b < 8; b++) {
+                check.due("plan(" + measure + ", " + b + ")", x.plan(measure, b), r.plan(measure, b));
+            }
+            for (int j = 0; j < 7; j++) {
+                check.due("end(" + j + ", " + measure + ")", x.end(j, measure), r.end(j, measure));
+            }
+        }
+        Check.say(x, "0/1/2/3/4/5/6");
+        for (int sign : "0/1/2/3/4/5/6".toCharArray()) {
+            r.say(sign);
+        }
+        for (int what = 0; what < 5; what++) {
+            check.due("row(" + what + ")", x.row(what), r.row(what));
+        }
+        check.due("row(2), the longest there is", x.row(2), 7 * (3 * 9 + 20));
     }
 
     private static void answersFollowChanges() {

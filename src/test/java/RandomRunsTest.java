@@ -11,11 +11,13 @@ public final class RandomRunsTest {
     private final StringBuilder told = new StringBuilder();
     private final int mostJobs;
     private final boolean oneFamily;
+    private final boolean slow;
 
     private RandomRunsTest(long seed) {
         random = new Random(seed);
         mostJobs = seed % 40 == 0 ? 7 : 3 + random.nextInt(4);
         oneFamily = random.nextInt(6) == 0;
+        slow = random.nextInt(5) == 0;
     }
 
     public static void main(String[] args) {
@@ -57,6 +59,19 @@ public final class RandomRunsTest {
         return near(0, Math.max(0, r.count(0) - 1));
     }
 
+    /** Families far apart and a slow furnace, so that times grow as long as they can. */
+    private int someHeat() {
+        return slow ? near(0, 1) * 9 : near(0, 9);
+    }
+
+    private int someCook() {
+        return slow ? near(18, 20) : near(1, 20);
+    }
+
+    private int somePace() {
+        return slow ? near(2, 3) : near(0, 3);
+    }
+
     private int someFamily() {
         return oneFamily ? near(1, 1) : near(0, 2);
     }
@@ -93,11 +108,11 @@ public final class RandomRunsTest {
         int c;
         switch (which) {
             case 0:
-                a = someFamily(); b = near(0, 1); c = b == 0 ? near(0, 9) : near(1, 20);
+                a = someFamily(); b = near(0, 1); c = b == 0 ? someHeat() : someCook();
                 compare("family(" + a + ", " + b + ", " + c + ")", x.family(a, b, c), r.family(a, b, c));
                 break;
             case 1:
-                a = near(0, 2); b = a == 0 ? near(9, 20) : near(0, 3);
+                a = near(0, 2); b = a == 0 ? near(9, 20) : somePace();
                 compare("set(" + a + ", " + b + ")", x.set(a, b), r.set(a, b));
                 break;
             case 2:

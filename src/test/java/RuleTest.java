@@ -9,6 +9,7 @@ public final class RuleTest {
         byTightNotByDue();
         alikeByNumbers();
         fillsUpPastOneThatDoesNotFit();
+        sevenJobs();
         asThingsAre();
         refusals();
         check.finish();
@@ -66,6 +67,15 @@ public final class RuleTest {
         rule(x, 5, 16, 10);
         x.set(0, 16);
         rule(x, 15, 16);
+    }
+
+    private static void sevenJobs() {
+        HeatBatches x = Check.withJobs(0, 9, 99, 0, 9, 89, 0, 9, 79, 0, 9, 69, 0, 9, 59, 0, 9, 49, 0, 9, 0);
+        rule(x, 64, 32, 16, 8, 4, 2, 1);
+        ruled(x, 8, 8, 38, 7);
+        HeatBatches y = Check.withJobs(1, 1, 9, 1, 2, 8, 1, 1, 7, 1, 2, 6, 1, 1, 5, 1, 2, 4, 1, 1, 3);
+        rule(y, 127);
+        ruled(y, 8, 2 + 3 + 4 + 5 + 6 + 7 + 8, 11, 1);
     }
 
     private static void asThingsAre() {
