@@ -1,7 +1,7 @@
 import java.util.ArrayList;
 import java.util.List;
 
-/** The document once more, by going through every PLAN there is; slow, and made without a look at the class. */
+/** The document once more, by going through every PLAN there is: slow, and in another way than the class. */
 final class Reference {
     static final int UNKNOWN = -1, OUTSIDE = -2, STATE = -3, FULL = -4, NONE = -6, FAULT = -7;
 
