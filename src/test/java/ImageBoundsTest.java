@@ -87,6 +87,11 @@ public final class ImageBoundsTest {
         doc.sentence("All but THE PAD and IMAGES is as it was when it was kept");
         doc.due(Run.of(SOME, "image(0); wipe(); restore(0)"), "count(5)", 0, "row(4)", 0);
         doc.due(Run.of(SOME, "image(0); pad(34/4567890)"), "count(5)", 14, "restore(0)", 1, "count(5)", 14, "say(48)", FULL);
+        for (int n = 0; n <= 14; n++) {
+            Run run = Run.of("job(0, 1, 1); pad(" + "0/1/2/3/4/5/6/".substring(0, n) + ")");
+            doc.due(run, "image(0)", 1, "count(5)", n, "image(1)", 1, "count(5)", n, "restore(0)", 1, "count(5)", n,
+                    "restore(1)", 1, "wipe()", n);
+        }
         doc.due(Run.of("image(0)", SOME), "fault()", NONE, "restore(0)", 1, "count(5)", 4, "fault()", 0);
         doc.due(Run.of(SOME, "image(0); drop(2); drop(2); drop(2)"), "fault()", 3, "restore(0)", 1, "fault()", NONE, "row(4)", 7);
     }

@@ -20,6 +20,7 @@ public final class TermsBoundsTest {
         setsOfJobs();
         objectsAreApart();
         callsToTheLast();
+        changesToTheLast();
         doc.finish();
     }
 
@@ -178,5 +179,38 @@ public final class TermsBoundsTest {
                 doc.holds("that was call 512", run.calls() == 512);
             }
         }
+    }
+
+    /** A change ahead of the questions, up to the last call: each answer is that of a new object in the same state. */
+    private static void changesToTheLast() {
+        doc.sentence("An object is used for at most 512 calls after it has been made");
+        for (int jobs : new int[] {2, 3, 4, 7}) {
+            changesToTheLast(new int[jobs]);
+        }
+    }
+
+    private static void changesToTheLast(int[] dues) {
+        String[] questions = {"slack(%, 0)", "slack(%, 1)", "best(0)", "best(1)", "plan(0, 1)", "plan(1, 1)", "end(%, 1)",
+            "plan(2, 1)"};
+        Run old = Run.of(jobsDueAt(dues));
+        for (int round = 0; old.calls() < 512; round++) {
+            int changed = round % dues.length;
+            dues[changed] = (dues[changed] + 37 + round) % 100;
+            old.ask("due(" + changed + ", " + dues[changed] + ")");
+            for (int more = 0; more < 4 && old.calls() < 512; more++) {
+                int job = (changed + more) % dues.length;
+                String question = questions[(3 * round + more) % questions.length].replace("%", String.valueOf(job));
+                doc.due(old, question, Run.of(jobsDueAt(dues)).ask(question));
+            }
+        }
+        doc.holds("up to call 512", old.calls() == 512);
+    }
+
+    private static String jobsDueAt(int[] dues) {
+        StringBuilder jobs = new StringBuilder();
+        for (int j = 0; j < dues.length; j++) {
+            jobs.append("job(").append(j % 3).append(", ").append(3 + j / 3).append(", ").append(dues[j]).append("); ");
+        }
+        return jobs.toString();
     }
 }
