@@ -12,6 +12,7 @@ public final class BestPlansTest {
         planByWorstMayWaste();
         furnaceOfOneHeat();
         theLongestTimes();
+        crowdedSearches();
         answersFollowChanges();
         slack();
         slackPastJumps();
@@ -139,6 +140,37 @@ public final class BestPlansTest {
             check.due("row(" + what + ")", x.row(what), r.row(what));
         }
         check.due("row(2), the longest there is", x.row(2), 7 * (3 * 9 + 20));
+    }
+
+    /**
+     * Shops in which a new object's search finds so much that its table has no place for all of it: held against the
+     * reference. Each row: HEAT and COOK by families, ROOM, UP, DOWN, then FAMILY, VOLUME, DUE of the jobs.
+     */
+    private static void crowdedSearches() {
+        int[][] shops = {
+            {6, 19, 3, 4, 5, 18, 14, 2, 3, 0, 2, 49, 1, 1, 85, 0, 4, 58, 2, 3, 18, 0, 2, 43, 1, 3, 8, 2, 5, 1},
+            {0, 7, 6, 4, 9, 15, 12, 3, 2, 2, 2, 88, 1, 5, 88, 1, 4, 3, 0, 3, 36, 1, 1, 97, 2, 9, 61, 1, 3, 4},
+            {2, 20, 6, 19, 3, 19, 14, 3, 3, 1, 2, 83, 1, 1, 12, 0, 7, 90, 1, 4, 81, 1, 7, 3, 2, 3, 54, 0, 2, 3},
+            {3, 4, 0, 19, 8, 15, 18, 3, 3, 0, 6, 11, 0, 7, 52, 2, 2, 77, 2, 1, 64, 2, 9, 56, 0, 1, 79, 1, 7, 8}};
+        for (int[] s : shops) {
+            HeatBatches x = new HeatBatches();
+            Reference r = new Reference();
+            for (int i = 0; i < 6; i++) {
+                check.due("family", x.family(i / 2, i % 2, s[i]), r.family(i / 2, i % 2, s[i]));
+            }
+            for (int what = 0; what < 3; what++) {
+                check.due("set", x.set(what, s[6 + what]), r.set(what, s[6 + what]));
+            }
+            for (int i = 9; i < s.length; i += 3) {
+                check.due("job", x.job(s[i], s[i + 1], s[i + 2]), r.job(s[i], s[i + 1], s[i + 2]));
+            }
+            for (int measure = 0; measure < 4; measure++) {
+                check.due("best(" + measure + ")", x.best(measure), r.best(measure));
+                for (int b = -1; b < 7; b++) {
+                    check.due("plan(" + measure + ", " + b + ")", x.plan(measure, b), r.plan(measure, b));
+                }
+            }
+        }
     }
 
     private static void answersFollowChanges() {
