@@ -15,6 +15,8 @@ public final class HeatBatches {
     private static final int TIME = 2;
     private static final int BATCHES = 3;
     private static final int MEASURES = 4;
+    // no measure of a PLAN comes to so much, and no TIGHT
+    private static final int ABOVE_ALL = 1000000;
 
     private final Shop shop = new Shop();
     private final Shop trial = new Shop();
@@ -385,7 +387,7 @@ public final class HeatBatches {
 
     private int tightest(int members) {
         int found = 0;
-        int least = Integer.MAX_VALUE;
+        int least = ABOVE_ALL;
         for (int job = 0; job < shop.jobs; job++) {
             if (contains(members, job) && shop.tight(job) < least) {
                 found = job;
@@ -396,7 +398,7 @@ public final class HeatBatches {
     }
 
     private int putIn(int job, boolean wantsPlace) {
-        int least = Integer.MAX_VALUE;
+        int least = ABOVE_ALL;
         int found = 0;
         for (int place = 0; place <= 2 * padPlan.batches; place++) {
             if (putPlan.becomeWith(shop, padPlan, job, place)) {
@@ -768,7 +770,7 @@ public final class HeatBatches {
             if (keys[slot] == key) {
                 return finds[slot];
             }
-            int least = Integer.MAX_VALUE;
+            int least = ABOVE_ALL;
             for (int batch = left; batch > 0; batch = batch - 1 & left) {
                 int family = familyOfBatch[batch];
                 if (family != NO_BATCH) {

@@ -5,6 +5,8 @@ import java.lang.reflect.Method;
 import java.lang.reflect.Modifier;
 import java.nio.file.Files;
 import java.nio.file.Path;
+import java.util.ArrayList;
+import java.util.List;
 import java.util.Set;
 import java.util.TreeSet;
 import java.util.regex.Matcher;
@@ -21,8 +23,11 @@ public final class FaceTest {
     public static void main(String[] args) throws IOException {
         constants();
         members();
+        faceAsTold();
         namesAreApart();
+        staticFields();
         words();
+        library();
         check.finish();
     }
 
@@ -64,6 +69,20 @@ public final class FaceTest {
                 && made[0].getParameterCount() == 0 && Modifier.isPublic(made[0].getModifiers()));
     }
 
+    /** The lines of the document's face, with the names of their numbers. */
+    private static void faceAsTold() throws IOException {
+        String document = Files.readString(Path.of("../shared/DOC.md"));
+        String code = code();
+        Matcher lines = Pattern.compile("(?m)^    (public .*);$").matcher(document);
+        int told = 0;
+        while (lines.find()) {
+            told++;
+            check.holds("the class declares " + lines.group(1), code.contains("    " + lines.group(1) + " {\n")
+                    || code.contains("    " + lines.group(1) + ";\n"));
+        }
+        check.due("lines of the face", told, METHODS.length + 2);
+    }
+
     private static void namesAreApart() {
         Set<String> open = new TreeSet<>();
         for (String m : METHODS) {
@@ -87,9 +106,28 @@ public final class FaceTest {
         }
     }
 
+    private static void staticFields() {
+        List<Class<?>> classes = new ArrayList<>(List.of(HeatBatches.class.getDeclaredClasses()));
+        classes.add(HeatBatches.class);
+        for (Class<?> one : classes) {
+            for (Field f : one.getDeclaredFields()) {
+                check.holds(f + " is no static state", !Modifier.isStatic(f.getModifiers())
+                        || Modifier.isFinal(f.getModifiers()) && f.getType() == int.class);
+            }
+        }
+    }
+
+    private static String text() throws IOException {
+        return Files.readString(Path.of("src/main/java/HeatBatches.java"));
+    }
+
+    private static String code() throws IOException {
+        return text().replaceAll("(?s)/\\*.*?\\*/", "").replaceAll("//[^\n]*", "");
+    }
+
     private static void words() throws IOException {
-        String text = Files.readString(Path.of("src/main/java/HeatBatches.java"));
-        String code = text.replaceAll("(?s)/\\*.*?\\*/", "").replaceAll("//[^\n]*", "");
+        String text = text();
+        String code = code();
         String[] words = {"throw", "throws", "try", "catch", "synchronized", "assert", "package", "Exact", "->", "::",
             "Random", "System.out", "currentTimeMillis", "nanoTime", "Thread", "hashCode", "toString"};
         for (String word : words) {
@@ -106,6 +144,24 @@ public final class FaceTest {
             if (text.charAt(i) > 127) {
                 check.holds("sign " + i + " is below 128", false);
             }
+        }
+    }
+
+    /** Rule 4 lists functions of the library: one that it has not, or a constant of it, is not to be used. */
+    private static void library() throws IOException {
+        Set<String> listed = Set.of("Math.max", "Math.min", "Math.abs", "Math.floorDiv", "Math.floorMod", "Integer.compare",
+                "Integer.bitCount", "Integer.max", "Integer.min", "System.arraycopy", "Arrays.fill", "Arrays.copyOf",
+                "Arrays.copyOfRange");
+        Set<String> own = new TreeSet<>();
+        for (Class<?> inside : HeatBatches.class.getDeclaredClasses()) {
+            own.add(inside.getSimpleName());
+        }
+        Matcher used = Pattern.compile("\\b([A-Z]\\w*[a-z]\\w*)\\s*\\.\\s*(\\w+)(\\s*\\()?")
+                .matcher(code().replaceAll("import [^;]*;", ""));
+        while (used.find()) {
+            String name = used.group(1) + "." + used.group(2);
+            check.holds(name + " is of the class or a function that is listed",
+                    own.contains(used.group(1)) || listed.contains(name) && used.group(3) != null);
         }
     }
 }
